@@ -212,7 +212,19 @@ public final class DefinitionTests {
         return more;
     }
 
-    /** NODES go in any order. */
+    /** What is left if the NODE goes, should it have ARCS to two others at most. */
+    private int goes(int[] near, int left, int node) {
+        int others = near[node] & left;
+        if ((left >> node & 1) == 0 || Integer.bitCount(others) > 2) {
+            return left;
+        }
+        for (int v = 0; v < n; v++) {
+            near[v] |= (others >> v & 1) != 0 ? others & ~(1 << v) : 0;
+        }
+        return left & ~(1 << node);
+    }
+
+    /** NODES go in an order by chance first, and then until none can. */
     private int wornSet() {
         int[] near = new int[n];
         for (int arc : thereList()) {
@@ -220,30 +232,11 @@ public final class DefinitionTests {
             near[second[arc]] |= 1 << first[arc];
         }
         int left = (1 << n) - 1;
-        int shift = dice(Math.max(1, n));
-        for (int step = 0; step < n * n * 2; step++) {
-            int node = (step * (n - 1) + shift) % n;
-            node = step % 3 == 0 ? dice(n) : node;
-            int others = near[node] & left;
-            if ((left >> node & 1) != 0 && Integer.bitCount(others) <= 2) {
-                left &= ~(1 << node);
-                for (int v = 0; v < n; v++) {
-                    if ((others >> v & 1) != 0) {
-                        near[v] |= others & ~(1 << v);
-                    }
-                }
-            }
+        for (int step = 0; step < n; step++) {
+            left = goes(near, left, dice(n));
         }
-        for (int again = 0; again < n; again++) {
-            for (int v = 0; v < n; v++) {
-                if ((left >> v & 1) != 0 && Integer.bitCount(near[v] & left) <= 2) {
-                    int others = near[v] & left;
-                    left &= ~(1 << v);
-                    for (int w = 0; w < n; w++) {
-                        near[w] |= (others >> w & 1) != 0 ? others & ~(1 << w) : 0;
-                    }
-                }
-            }
+        for (int step = 0; step < n * n; step++) {
+            left = goes(near, left, step % n);
         }
         return left;
     }
@@ -415,7 +408,7 @@ public final class DefinitionTests {
     }
 
     private void checkWorn() {
-        int left = n == 0 ? 0 : wornSet();
+        int left = wornSet();
         due("worn()", x.worn(), left);
         due("count(8)", x.count(8), Integer.bitCount(left));
     }
@@ -559,7 +552,7 @@ public final class DefinitionTests {
 
     private static void splitGraphs() {
         for (int run = 0; run < 400; run++) {
-            DefinitionTests g = new DefinitionTests(2 + dice(7), 4 + dice(12), "splits");
+            DefinitionTests g = new DefinitionTests(2 + dice(13), 4 + dice(12), "splits");
             g.layBySeriesAndParallels();
             if (dice(3) == 0) {
                 g.turnSome();
