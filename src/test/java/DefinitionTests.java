@@ -351,6 +351,52 @@ public final class DefinitionTests {
         }
     }
 
+    /**
+     * All ways of a PART are STRONG; and where an ARC goes BACK, with it FORTH and all lesser ones as they are there
+     * would be NODES, not with its first one, from which no ARC leads to others, whatever the greater ones do.
+     */
+    private void checkWaysByWitness(int node) {
+        int part = reach(node, there, 0);
+        List<Integer> ofPart = new ArrayList<>();
+        boolean bridges = false;
+        for (int arc : thereList()) {
+            if ((part >> first[arc] & 1) != 0) {
+                ofPart.add(arc);
+                bridges |= isBridge(arc);
+            }
+        }
+        long forth = 0;
+        for (int i = 0; i < ofPart.size(); i++) {
+            int way = x.way(ofPart.get(i));
+            forth |= (long) (way & 1) << (ofPart.size() - 1 - i);
+            due("way(" + ofPart.get(i) + ") of a PART with a BRIDGE", bridges == (way == -3) ? 1 : 0, 1);
+            if (!bridges && way == 0) {
+                due("way(" + ofPart.get(i) + "), witness", mayComeBack(ofPart, i, forth) ? 1 : 0, 0);
+            }
+        }
+        if (!bridges) {
+            due("all ways STRONG", isStrong(part, ofPart, forth) ? 1 : 0, 1);
+        }
+    }
+
+    /** Whether one may come from the second NODE of the ARC to its first, if the lesser ARCS go as told. */
+    private boolean mayComeBack(List<Integer> ofPart, int tried, long forth) {
+        int seen = 1 << second[ofPart.get(tried)];
+        for (int round = 0; round < n; round++) {
+            for (int i = 0; i < ofPart.size(); i++) {
+                int arc = ofPart.get(i);
+                boolean goesForth = (forth >> (ofPart.size() - 1 - i) & 1) != 0;
+                if (i >= tried || goesForth) {
+                    seen |= (seen >> first[arc] & 1) << second[arc];
+                }
+                if (i > tried || i < tried && !goesForth) {
+                    seen |= (seen >> second[arc] & 1) << first[arc];
+                }
+            }
+        }
+        return (seen >> first[ofPart.get(tried)] & 1) != 0;
+    }
+
     private int nodesOf(long arcs) {
         int set = 0;
         for (int arc = 0; arc < made; arc++) {
@@ -486,6 +532,51 @@ public final class DefinitionTests {
         }
     }
 
+    private DefinitionTests withOneMore(int a, int b) {
+        DefinitionTests more = new DefinitionTests(n, made + 1, name);
+        for (int arc = 0; arc < made; arc++) {
+            more.put(arc, first[arc], second[arc]);
+            if (!there[arc]) {
+                more.there[arc] = false;
+                more.x.turn(arc);
+            }
+        }
+        more.put(made, a, b);
+        return more;
+    }
+
+    private boolean isWhole() {
+        boolean whole = true;
+        for (int node = 1; node < n; node++) {
+            whole &= sameTwin(0, node);
+        }
+        return whole;
+    }
+
+    /**
+     * No ARC makes more than one less NEEDED, and as long as one is NEEDED there is one that does; so those that do
+     * come one by one, until all is whole, just when none is NEEDED.
+     */
+    private void checkNeededByOneMore() {
+        int needed = x.count(7);
+        DefinitionTests next = null;
+        for (int a = 0; a < n; a++) {
+            for (int b = a + 1; b < n; b++) {
+                DefinitionTests more = withOneMore(a, b);
+                int then = more.x.count(7);
+                due("count(7) with one more, less by one at most", then >= needed - 1 && then <= needed ? 1 : 0, 1);
+                due("mends(" + a + ", " + b + ")", x.mends(a, b), then < needed ? 1 : 0);
+                due("mends(" + b + ", " + a + ")", x.mends(b, a), then < needed ? 1 : 0);
+                next = then < needed && (next == null || dice(4) == 0) ? more : next;
+            }
+        }
+        due("count(7), whole or not", needed == 0 ? 1 : 0, isWhole() ? 1 : 0);
+        due("one that makes less NEEDED", next != null ? 1 : 0, needed > 0 ? 1 : 0);
+        if (next != null && next.made < 40) {
+            next.checkNeededByOneMore();
+        }
+    }
+
     private void layAnywhere() {
         for (int arc = 0; arc < made; arc++) {
             int a = dice(n);
@@ -567,6 +658,46 @@ public final class DefinitionTests {
         }
     }
 
+    /** ARCS anywhere, and behind them a ring through all NODES, so that there is seldom a BRIDGE. */
+    private void layRingAndMore() {
+        int loose = made - n;
+        for (int arc = 0; arc < made; arc++) {
+            int a = arc < loose ? dice(n) : arc - loose;
+            int b = arc < loose ? (a + 1 + dice(n - 1)) % n : (a + 1) % n;
+            boolean round = dice(2) == 0;
+            put(arc, round ? b : a, round ? a : b);
+        }
+    }
+
+    private static void largeWays() {
+        for (int run = 0; run < 300; run++) {
+            int n = 3 + dice(12);
+            DefinitionTests g = new DefinitionTests(n, n + dice(41 - n), "ways");
+            if (run % 3 == 0) {
+                g.layAnywhere();
+            } else {
+                g.layRingAndMore();
+            }
+            if (run % 2 == 0) {
+                g.turnSome();
+            }
+            for (int node = 0; node < n; node++) {
+                if (Integer.numberOfTrailingZeros(g.reach(node, g.there, 0)) == node) {
+                    g.checkWaysByWitness(node);
+                }
+            }
+        }
+    }
+
+    private static void largeNeeded() {
+        for (int run = 0; run < 40; run++) {
+            DefinitionTests g = new DefinitionTests(7 + dice(8), dice(24), "needed");
+            g.layAnywhere();
+            g.turnSome();
+            g.checkNeededByOneMore();
+        }
+    }
+
     private static void largeGraphs() {
         for (int run = 0; run < 24; run++) {
             DefinitionTests g = new DefinitionTests(14, 14 + dice(27), "large");
@@ -586,6 +717,8 @@ public final class DefinitionTests {
         neededGraphs();
         splitGraphs();
         largeGraphs();
+        largeWays();
+        largeNeeded();
         System.out.println(wrong == 0 ? "all answers are as due" : wrong + " answers are not as due");
         if (wrong != 0) {
             System.exit(1);

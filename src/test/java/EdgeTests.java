@@ -491,6 +491,15 @@ public final class EdgeTests {
         four().splits(5, 6, 0, 6, 0);
     }
 
+    private static void terms_goodSplitIsOneOfTwoSets() {
+        // at NODES 0 and 1 there are but two sets of ARCS to be split
+        nodes(6).lay(0, 2, 0, 3, 1, 2, 1, 3, 2, 3, 0, 4, 0, 5, 1, 4, 1, 5, 4, 5).splits(4, 10, 1, 5, 0)
+                .splits(9, 10, 1, 5, 5).due("together(0, 4)", 1).due("together(4, 5)", 0);
+        // and with an ARC between them a third, of one ARC
+        nodes(6).lay(0, 2, 0, 3, 1, 2, 1, 3, 2, 3, 0, 4, 0, 5, 1, 4, 1, 5, 4, 5, 0, 1).splits(4, 11, 2, 5, 0)
+                .splits(9, 11, 2, 5, 5).splits(10, 11, 2, 1, 10).due("together(10, 0)", 0);
+    }
+
     private static void terms_splitsThatCrossAreNotGood() {
         ring(4).splits(3, 4, 0, 4, 0).due("together(0, 2)", 1);
         parallel(4).splits(3, 4, 0, 4, 0).due("together(0, 3)", 1);
