@@ -698,6 +698,30 @@ public final class DefinitionTests {
         }
     }
 
+    /** A graph whose TWO-ARC PARTS are single NODES, with its BRIDGES as they may be: each forest there is. */
+    private static void allForests() {
+        for (int[] near : Forest.all()) {
+            int n = near.length;
+            DefinitionTests g = new DefinitionTests(n, n - 1, "forest");
+            int arc = 0;
+            for (int a = 0; a < n; a++) {
+                for (int b = a + 1; b < n; b++) {
+                    if ((near[a] >> b & 1) != 0) {
+                        g.put(arc++, a, b);
+                    }
+                }
+            }
+            int needed = Forest.needed(near);
+            g.due("count(7)", g.x.count(7), needed);
+            for (int a = 0; a < n; a++) {
+                for (int b = a + 1; b < n; b++) {
+                    int then = Forest.needed(Forest.withOneMore(near, a, b));
+                    g.due("mends(" + a + ", " + b + ")", g.x.mends(a, b), then < needed ? 1 : 0);
+                }
+            }
+        }
+    }
+
     private static void largeGraphs() {
         for (int run = 0; run < 24; run++) {
             DefinitionTests g = new DefinitionTests(14, 14 + dice(27), "large");
@@ -719,6 +743,7 @@ public final class DefinitionTests {
         largeGraphs();
         largeWays();
         largeNeeded();
+        allForests();
         System.out.println(wrong == 0 ? "all answers are as due" : wrong + " answers are not as due");
         if (wrong != 0) {
             System.exit(1);

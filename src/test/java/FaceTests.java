@@ -2,7 +2,6 @@ import java.lang.reflect.Constructor;
 import java.lang.reflect.Field;
 import java.lang.reflect.Method;
 import java.lang.reflect.Modifier;
-import java.util.ArrayList;
 import java.util.List;
 import java.util.TreeSet;
 
@@ -76,36 +75,73 @@ public final class FaceTests {
         }
     }
 
-    private static List<CutPoints> objects() {
-        List<CutPoints> list = new ArrayList<>();
-        for (int nodes : new int[] {0, 1, 2, 5, 14}) {
-            for (int arcs : new int[] {0, 1, 14, 15, 40}) {
-                CutPoints x = new CutPoints();
-                for (int i = 0; i < nodes; i++) {
-                    x.node();
+    /** Nothing may live outside of the objects but constants, so that two of them never meet. */
+    private static void checkStatics() {
+        for (Class<?> inside : CutPoints.class.getDeclaredClasses()) {
+            if (!Modifier.isStatic(inside.getModifiers()) || Modifier.isPublic(inside.getModifiers())) {
+                fault("not static, or public: " + inside);
+            }
+            for (Field field : inside.getDeclaredFields()) {
+                int kind = field.getModifiers();
+                boolean constant = Modifier.isFinal(kind) && field.getType().isPrimitive();
+                if (Modifier.isStatic(kind) && !constant && !inside.isEnum()) {
+                    fault("static and no constant: " + field);
                 }
-                for (int i = 0; i < arcs && nodes > 1; i++) {
-                    x.arc(i % nodes, (i + 1 + i / nodes % (nodes - 1)) % nodes);
-                }
-                list.add(x);
             }
         }
-        return list;
     }
 
-    private static void callAll(CutPoints x) throws ReflectiveOperationException {
-        for (Method method : CutPoints.class.getMethods()) {
-            if (method.getDeclaringClass() != CutPoints.class || method.getName().equals("clear")) {
-                continue;
+    /** Makes its object anew before it would get more calls than the document speaks of. */
+    private static final class Caller {
+        private final int nodes;
+        private final int arcs;
+        private final boolean cleared;
+        private CutPoints x;
+        private int given;
+
+        Caller(int nodes, int arcs, boolean cleared) {
+            this.nodes = nodes;
+            this.arcs = arcs;
+            this.cleared = cleared;
+            make();
+        }
+
+        private void make() {
+            x = new CutPoints();
+            for (int i = 0; i < nodes; i++) {
+                x.node();
             }
-            for (int a : ODD) {
-                if (method.getParameterCount() == 0) {
-                    method.invoke(x);
-                } else if (method.getParameterCount() == 1) {
-                    method.invoke(x, a);
-                } else {
-                    for (int b : ODD) {
-                        method.invoke(x, a, b);
+            for (int i = 0; i < arcs && nodes > 1; i++) {
+                x.arc(i % nodes, (i + 1 + i / nodes % (nodes - 1)) % nodes);
+            }
+            if (cleared) {
+                x.clear();
+            }
+            given = nodes + arcs + 1;
+        }
+
+        void call(Method method, Object... numbers) throws ReflectiveOperationException {
+            if (given >= 512) {
+                make();
+            }
+            given++;
+            method.invoke(x, numbers);
+        }
+
+        void callAll() throws ReflectiveOperationException {
+            for (Method method : CutPoints.class.getMethods()) {
+                if (method.getDeclaringClass() != CutPoints.class || method.getName().equals("clear")) {
+                    continue;
+                }
+                for (int a : ODD) {
+                    if (method.getParameterCount() == 0) {
+                        call(method);
+                    } else if (method.getParameterCount() == 1) {
+                        call(method, a);
+                    } else {
+                        for (int b : ODD) {
+                            call(method, a, b);
+                        }
                     }
                 }
             }
@@ -113,13 +149,14 @@ public final class FaceTests {
     }
 
     private static void checkOddCalls() {
-        for (CutPoints x : objects()) {
-            try {
-                callAll(x);
-                x.clear();
-                callAll(x);
-            } catch (ReflectiveOperationException thrown) {
-                fault("a call threw: " + thrown.getCause());
+        for (int nodes : new int[] {0, 1, 2, 5, 14}) {
+            for (int arcs : new int[] {0, 1, 14, 15, 40}) {
+                try {
+                    new Caller(nodes, arcs, false).callAll();
+                    new Caller(nodes, arcs, true).callAll();
+                } catch (ReflectiveOperationException thrown) {
+                    fault("a call threw: " + thrown.getCause());
+                }
             }
         }
     }
@@ -127,6 +164,7 @@ public final class FaceTests {
     public static void main(String[] args) {
         checkMethods();
         checkRest();
+        checkStatics();
         checkOddCalls();
         System.out.println(wrong == 0 ? "all is as due" : wrong + " faults");
         if (wrong != 0) {
