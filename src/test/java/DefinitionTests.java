@@ -669,6 +669,75 @@ public final class DefinitionTests {
         }
     }
 
+    private int[] namesByChance() {
+        int[] names = new int[n];
+        for (int i = 0; i < n; i++) {
+            int other = dice(i + 1);
+            names[i] = names[other];
+            names[other] = i;
+        }
+        return names;
+    }
+
+    /** A ring of all NODES in an order by chance, and behind it ARCS beside those of the ring, or across. */
+    private void layRingWithChords() {
+        int[] names = namesByChance();
+        for (int arc = 0; arc < made; arc++) {
+            int a = arc < n ? arc : dice(n);
+            int b = arc < n || dice(2) == 0 ? (a + 1) % n : (a + 1 + dice(n - 1)) % n;
+            boolean round = dice(2) == 0;
+            put(arc, names[round ? b : a], names[round ? a : b]);
+        }
+    }
+
+    /** Rings that are as long as BLOCKS of 14 ARCS let them be have the most pairs of NODES that SPLIT. */
+    private static void longRings() {
+        for (int run = 0; run < 150; run++) {
+            int n = 9 + dice(6);
+            DefinitionTests g = new DefinitionTests(n, 14, "ring");
+            g.layRingWithChords();
+            long[] block = g.blockSets();
+            g.checkBlocks(block);
+            g.checkSplits(block);
+        }
+        for (int doubled = 0; doubled < 13; doubled++) {
+            DefinitionTests g = new DefinitionTests(13, 14, "ring with one ARC twice");
+            for (int arc = 0; arc < 14; arc++) {
+                int a = arc < 13 ? arc : doubled;
+                g.put(arc, a, (a + 1) % 13);
+            }
+            g.due("splits(13, 1)", g.x.splits(13, 1), 1);
+            g.due("splits(13, 2)", g.x.splits(13, 2), 2);
+            g.due("splits(13, 3)", g.x.splits(13, 3), doubled);
+            g.due("together(13, " + doubled + ")", g.x.together(13, doubled), 1);
+        }
+    }
+
+    /** Two or three crowds of NODES with many ARCS within, and few between. */
+    private void layCrowds(int crowds) {
+        int[] names = namesByChance();
+        for (int arc = 0; arc < made; arc++) {
+            int a = dice(n);
+            int b = (a + 1 + dice(n - 1)) % n;
+            for (int i = 0; i < 20 && a % crowds != b % crowds && arc >= crowds; i++) {
+                b = (a + 1 + dice(n - 1)) % n;
+            }
+            put(arc, names[a], names[b]);
+        }
+    }
+
+    private static void crowds() {
+        for (int run = 0; run < 300; run++) {
+            DefinitionTests g = new DefinitionTests(8 + dice(7), 18 + dice(23), "crowds");
+            g.layCrowds(2 + dice(2));
+            if (run % 2 == 0) {
+                g.turnSome();
+            }
+            g.checkNodes();
+            g.checkWorn();
+        }
+    }
+
     private static void largeWays() {
         for (int run = 0; run < 300; run++) {
             int n = 3 + dice(12);
@@ -740,6 +809,8 @@ public final class DefinitionTests {
         smallGraphs();
         neededGraphs();
         splitGraphs();
+        longRings();
+        crowds();
         largeGraphs();
         largeWays();
         largeNeeded();

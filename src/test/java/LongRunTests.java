@@ -18,7 +18,10 @@ public final class LongRunTests {
         "node", "arc", "turn", "count", "part", "bridge", "falls", "block", "twin", "arcs", "side", "nodes", "between",
         "mends", "way", "together", "splits", "worn"};
     private static final List<String> CHANGES = List.of("clear", "node", "arc", "turn");
-    private static final int MOODS = 6;
+    private static final int MOODS = 7;
+    private static final int OFTEN_CLEAR = 5;
+    private static final int IN_CROWDS = 6;
+    private static final int BESIDE_OTHERS = 3;
 
     /** What must have been due among the last calls of some run, or the runs do not show what they are made for. */
     private static final String[] MUST_BE_DUE = {
@@ -70,7 +73,7 @@ public final class LongRunTests {
         }
 
         private void choosePlan(int now) {
-            int[][] plans = {{4, 2}, {13, -1}, {12, 23}, {8, 1}, {7, 2}, {6, 0}};
+            int[][] plans = {{4, 2}, {13, -1}, {12, 23}, {8, 1}, {7, 2}, {6, 0}, {10, 8}};
             wantNodes = plans[now][0] + dice(3);
             moreArcs = plans[now][1] + dice(4);
         }
@@ -90,7 +93,7 @@ public final class LongRunTests {
             if (place == MOST_CALLS - 1) {
                 return lastOf(lastKind);
             }
-            if (mood == 5 && place == LAST_CALLS - 50) {
+            if (mood == OFTEN_CLEAR && place == LAST_CALLS - 50) {
                 return clearing();
             }
             if (justChanged && dice(2) == 0) {
@@ -112,7 +115,7 @@ public final class LongRunTests {
             if (!planned.isEmpty() && dice(3) > 0) {
                 return planned.remove(0);
             }
-            if (dice(mood == 5 ? 50 : 300) == 0) {
+            if (dice(mood == OFTEN_CLEAR ? 50 : 300) == 0) {
                 return clearing();
             }
             boolean poor = plain.n < wantNodes || Long.bitCount(plain.there) < plain.n + moreArcs - 2;
@@ -148,7 +151,7 @@ public final class LongRunTests {
         /** A NODE that comes alone, or into an ARC that is THERE, or beside one. */
         private void planNode() {
             planned.add(new Call("node", 0, 0));
-            if (plain.there != 0 && mood > 2 && dice(4) > 0) {
+            if (plain.there != 0 && mood >= BESIDE_OTHERS && mood != IN_CROWDS && dice(4) > 0) {
                 int arc = someArc();
                 boolean round = dice(2) == 0;
                 planned.add(new Call("arc", round ? plain.first[arc] : plain.n, round ? plain.n : plain.first[arc]));
@@ -161,9 +164,12 @@ public final class LongRunTests {
 
         /** Beside another one, or anywhere, where it mends something more often than not. */
         private Call someNewArc() {
-            if (plain.there != 0 && mood == 3 && dice(2) == 0) {
+            if (plain.there != 0 && mood == BESIDE_OTHERS && dice(2) == 0) {
                 int arc = someArc();
                 return new Call("arc", plain.second[arc], plain.first[arc]);
+            }
+            if (mood == IN_CROWDS && dice(12) > 0) {
+                return withinCrowd();
             }
             Call found = null;
             for (int i = 0; i < 8 && (found == null || !mends(found.a(), found.b()) && dice(6) > 0); i++) {
@@ -171,6 +177,13 @@ public final class LongRunTests {
                 found = new Call("arc", a, (a + 1 + dice(plain.n - 1)) % plain.n);
             }
             return found;
+        }
+
+        /** Between two even NODES or two odd ones. */
+        private Call withinCrowd() {
+            int a = dice(plain.n);
+            int b = (a + 1 + dice(plain.n - 1)) % plain.n;
+            return new Call("arc", a, (a + b) % 2 == 0 || b == 0 || b - 1 == a ? b : b - 1);
         }
 
         private boolean mends(int a, int b) {

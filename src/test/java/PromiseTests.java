@@ -430,6 +430,11 @@ public final class PromiseTests {
         due("splits(0, 1)", four.splits(0, 1), 1);
         due("splits(0, 2)", four.splits(0, 2), 5);
         due("splits(6, 3)", four.splits(6, 3), 5);
+        // of the longest ring that has one ARC twice, these two at the last NODES
+        CutPoints last = graph(14, 1, 2, 2, 3, 3, 4, 4, 5, 5, 6, 6, 7, 7, 8, 8, 9, 9, 10, 10, 11, 11, 12, 12, 13, 13, 1, 13, 12);
+        due("splits(0, 1)", last.splits(0, 1), 1);
+        due("splits(0, 2)", last.splits(0, 2), 12);
+        due("splits(13, 3)", last.splits(13, 3), 11);
         // two NODES with three ways of two ARCS: each way is a GOOD SPLIT
         CutPoints three = graph(5, 0, 2, 2, 1, 0, 3, 3, 1, 0, 4, 4, 1);
         due("splits(0, 1)", three.splits(0, 1), 3);
@@ -452,6 +457,13 @@ public final class PromiseTests {
         due("turn(8)", six.turn(8), 1);
         due("worn()", six.worn(), 63);
         due("count(1)", six.count(1), 9);
+        // two of four NODES, each with a NODE in one ARC; these two go, but not with the BRIDGE between them
+        CutPoints two = graph(10, 0, 1, 0, 2, 0, 3, 1, 2, 1, 3, 2, 4, 4, 3, 5, 6, 5, 7, 5, 8, 6, 7, 6, 8, 7, 9, 9, 8, 4, 9);
+        due("worn() with a BRIDGE", two.worn(), 1023);
+        due("bridge(14)", two.bridge(14), 1);
+        due("turn(14)", two.turn(14), 0);
+        due("worn() without it", two.worn(), 495);
+        due("count(8)", two.count(8), 8);
     }
 
     private static void run(String name, Runnable test) {
